@@ -19,6 +19,7 @@ public final class HeirsInsulted {
     // four things lie with four heirs in so many ways at most
     private static final int MOST_WAYS = 24;
     private static final int THING_BITS = 2, THING_MASK = 3;
+    private static final int ALL_LIES = 1 << (THING_BITS * MOST_HEIRS);
 
     // what may be said of a change: these, added
     private static final int WISHED = 1, ALLOWED = 2;
@@ -400,7 +401,7 @@ public final class HeirsInsulted {
     }
 
     private static boolean isA(int own, int kind) {
-        return kind == HEIR || kind == own || kind == SHAMMER && own == ACTOR;
+        return kind == HEIR || kind == own || (kind == SHAMMER && own == ACTOR);
     }
 
     private static int leftAtWorst(int bits, int other) {
@@ -410,11 +411,11 @@ public final class HeirsInsulted {
 
     private static int nextSeed(int seed) {
         // the mask is the rest by 2 to the 31
-        return (int) (1103515245L * seed + 12345L & 0x7fffffffL);
+        return (int) ((1103515245L * seed + 12345L) & 0x7fffffffL);
     }
 
     private static int drawn(int seed, int of) {
-        return of <= 0 ? 0 : seed / 65536 % of;
+        return of <= 0 ? 0 : (seed / 65536) % of;
     }
 
     /** A row of numbers that looks at every index itself, so that the machine never throws. */
@@ -636,7 +637,7 @@ public final class HeirsInsulted {
             int least = MOST_WORTH + 1;
             for (int thing = 0; thing < THINGS; thing++) {
                 int said = saidBy(heir, thing);
-                if ((gone >> thing & 1) == 0 && said < least) {
+                if (((gone >> thing) & 1) == 0 && said < least) {
                     best = thing;
                     least = said;
                 }
@@ -645,12 +646,12 @@ public final class HeirsInsulted {
         }
 
         int thingIn(int lie, int heir) {
-            return lie >> THING_BITS * (heirs - 1 - heir) & THING_MASK;
+            return (lie >> (THING_BITS * (heirs - 1 - heir))) & THING_MASK;
         }
 
         private int placed(int lie, int heir, int thing) {
             int shift = THING_BITS * (heirs - 1 - heir);
-            return lie & ~(THING_MASK << shift) | thing << shift;
+            return (lie & ~(THING_MASK << shift)) | (thing << shift);
         }
 
         int thingOf(int heir) {
@@ -719,7 +720,7 @@ public final class HeirsInsulted {
         int worstLie() {
             int worst = 0;
             int least = MOST_HEIRS * MOST_WORTH + 1;
-            for (int lie = 0; lie < 1 << THING_BITS * heirs; lie++) {
+            for (int lie = 0; lie < ALL_LIES && lie < 1 << (THING_BITS * heirs); lie++) {
                 if (isParted(lie) && sumOf(lie) < least) {
                     worst = lie;
                     least = sumOf(lie);

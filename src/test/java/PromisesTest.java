@@ -174,7 +174,7 @@ public final class PromisesTest {
     }
 
     private static void about() {
-        // h says 3 1 4 1; s 9-2 9-7 9-1 9-8; p 5; l 9-5; things: h 1, s 3 (1 is gone: 7 8 1), p 0, l 2
+        // h says 3 1 4 1: thing 1; s 7 2 8 1: thing 3; p 5 of all: thing 0; l 4 of all: thing 2
         HeirsInsulted x = willed("h3141,s2718,p9990,l0060");
         int[][] told = {
             {0, 1, 0, 0, 3, 1, 4, 1, 3, 1, 4, 1},
@@ -364,19 +364,19 @@ public final class PromisesTest {
     }
 
     private static void endsOfTwoSteps() {
-        // dealt p 0, s 2 (sayings 4 9 6 8: 4 is gone), s 3 (7 7 0 7: 1 is less) by worths below
+        // p says 5 of all: 0; s says 4 9 6 8: 2, as 0 is gone; s says 7 7 0 7: 1, as 2 is gone
         HeirsInsulted x = willed("p0410,s5031,s2292");
-        // p 0 (0); s 4 9 6 8 gets 2 (3); s 7 7 0 7 gets 1 (2): sum 5
         due("13 dealt", x.about(0, 1) * 100 + x.about(1, 1) * 10 + x.about(2, 1), 21);
-        // p with s 1: thing 2 for 0: 5 < 6, 4 < 5, 1 > 0, 5 > 3. p with s 2: 7 of 0 is not below 5.
-        // s 1 with s 2: thing 1 for 2: 9 of 1 is not below 7. Then p 2 with s 2 1: 5 < 7, 0 < 5, 4 > 1, 9 > 2.
+        // p with the first s, 2 for 0: 5 < 6 and 4 < 5, 1 > 0 and 5 > 3. No other two may: the second
+        // s says 7 of 0, more than p, and the first one 9 of 1, more than the second.
+        // Then p with the second s, 1 for 2: 5 < 7 and 0 < 5, 4 > 1 and 9 > 2.
         due("13 two steps: how many", x.ends(0), 1);
         due("13 two steps: the sum", x.ends(1), 4 + 5 + 9);
         due("13 two steps: fewest", x.ends(3), 2);
     }
 
     private static void served() {
-        // alone ahead, p and l get thing 0, s that of most worth, a the first of 0: thing 0 here
+        // the eldest gets thing 0 as h, p, l and a (of which he says 0 then), thing 1 as s
         HeirsInsulted x = willed("h1952,h0000");
         due("14 as a shammer", x.served(0, 0), 1);
         due("14 its worth", x.served(0, 1), 9);
@@ -400,14 +400,14 @@ public final class PromisesTest {
         HeirsInsulted taken = willed("h9099,l1962");
         due("14 what is left", taken.served(1, 1), 6);
         due("14 what is left", taken.served(1, 0), 1);
-        // h says 3 0 9 9: gets 1; as a lawyer behind him one says 6 9 0 0: thing 2, worth 9
-        // as an heir thing 0 (1), as a shammer thing 3 (9) or 2 (9): the least is the shammer
-        due("14 shammer ahead of lawyer", willed("h3099,h1099").served(1, 0), 1);
-        // as an actor one says 0 of what is worth 0 to 4 and of 9: thing 0 of worth 4, as all do
+        // thing 1 is gone; as an heir he gets 0 (1), as a shammer 2 (9), as a lawyer, who says
+        // 6 9 0 0, it too: of like ones the least
+        due("14 a shammer ahead of a lawyer", willed("h3099,h1099").served(1, 0), 1);
+        // thing 0 is gone, and the rest is worth as much
         due("14 alike by all kinds", willed("s9000,p9444").served(1, 0), 0);
-        // kinds that lead to thing 1: a priest (5 of all, 0 is gone) where heirs take the worthless 3
-        due("14 best of three", willed("h0999,h9870").served(1, 1), 8);
-        due("14 a shammer does as well as a priest", willed("h0999,h9870").served(1, 0), 1);
+        // thing 0 is gone: as an heir he gets 3 (0), as a shammer 1 (8), as a priest it too
+        due("14 of what is left the best", willed("h0999,h9870").served(1, 1), 8);
+        due("14 a shammer ahead of a priest", willed("h0999,h9870").served(1, 0), 1);
     }
 
     private static void worst() {
@@ -424,6 +424,8 @@ public final class PromisesTest {
         for (int heir = 0; heir < 4; heir++) {
             due("15 all alike: the first by numbers", like.worst(10 + heir), heir);
         }
+        due("15 the greatest sum", willed("h9999,s9999,p9999,l9999").worst(0), 36);
+        due("15 the greatest sum", willed("h9999,s9999,p9999,l9999").worst(13), 3);
         HeirsInsulted two = willed("h0999,h0888");
         // 0 for the one and 8 for the other, not 9 and 0
         due("15 one thing for one alone", two.worst(0), 8);
@@ -487,6 +489,9 @@ public final class PromisesTest {
         due("18 truths(0, 4)", x.truths(0, 4), UNKNOWN);
         due("18 truths(0, -1)", x.truths(0, -1), UNKNOWN);
         due("18 no will", new HeirsInsulted().truths(0, 0), UNKNOWN);
+        x.hear(1, 2, 3, true);
+        due("18 of the other heir: 7 to 9", x.truths(1, 2), 0b1110000000);
+        due("18 of the first one as it was", x.truths(0, 0), 0b0001100000);
         HeirsInsulted edge = willed("h0900,h0000");
         edge.hear(0, 0, 1, true);
         due("18 more than 9", edge.truths(0, 0), 0);
@@ -515,6 +520,7 @@ public final class PromisesTest {
         due("19 ask(0, 4)", x.ask(0, 4), UNKNOWN);
         due("19 ask(0, -1)", x.ask(0, -1), UNKNOWN);
         due("19 no will", new HeirsInsulted().ask(0, 0), UNKNOWN);
+        due("19 by thing 0", willed("h4991,h0000").ask(0, 3), 0);
         // 5 is not above 5: 6 to 9 or the six below, by 4 there are five
         due("19 the edge of a half", willed("h0540,h0000").ask(0, 0), 2);
     }
@@ -566,7 +572,7 @@ public final class PromisesTest {
         due("22 no will", new HeirsInsulted().restore(), STATE);
         HeirsInsulted x = willed("p0900,s8000,h0000");
         due("22 none was kept", x.restore(), STATE);
-        x.hear(0, 0, 1, true);
+        x.hear(0, 1, 2, true);
         long before = x.digest();
         due("22 image", x.image(), 0);
         x.worth(2, 3, 7);
@@ -581,7 +587,7 @@ public final class PromisesTest {
         due("22 his worth", x.about(2, 13), 0);
         due("22 his changes", x.about(0, 3), 0);
         due("22 heard", x.count(4), 1);
-        due("22 what was heard", x.truths(0, 0), 0);
+        due("22 what was heard: more than 0", x.truths(0, 1), 1022);
         x.change(0, 1);
         due("22 the image stays", x.restore(), 0);
         due("22 again", x.digest(), before);

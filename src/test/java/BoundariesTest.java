@@ -555,6 +555,7 @@ public final class BoundariesTest {
             endsByChanges(will);
         }
         due("13 four ends", willed("p1445,p6031,s9631,s1591").ends(0), 4);
+        endsAnew();
         due("13 two changes at the fewest", willed("l1549,p2129,s0937,s6628").ends(3), 2);
     }
 
@@ -564,6 +565,30 @@ public final class BoundariesTest {
         due("13 the greatest of " + will, x.ends(1), greatest);
         due("13 the least of " + will, x.ends(2), least);
         due("13 fewest of " + will, x.ends(3), fewest);
+    }
+
+    /** Nothing of what was told before is left in what is told then. */
+    private static void endsAnew() {
+        HeirsInsulted x = willed("p1445,p6031,s9631,s1591");
+        HeirsInsulted never = willed("p1445,p6031,s9631,s1591");
+        for (int i = 0; i < 12; i++) {
+            int a = i % 4;
+            int b = (i + 1 + i / 4) % 4;
+            x.ends(i % 4);
+            x.change(a, b);
+            never.change(a, b);
+            x.worth(a, b, 0);
+            never.worth(a, b, 0);
+        }
+        for (int what = 0; what <= 3; what++) {
+            due("13 anew, " + what, x.ends(what), never.ends(what));
+        }
+        HeirsInsulted high = willed("p9999,p9999,p9999,p9999");
+        due("13 the sum", high.ends(1) + high.ends(2), 72);
+        high.worth(0, 0, 3);
+        due("13 a lesser sum", high.ends(1) + high.ends(2), 60);
+        high.worth(0, 0, 8);
+        due("13 a greater one", high.ends(1) + high.ends(2), 70);
     }
 
     /** Does all changes there are, each way on an object of its own, and looks where they end. */
@@ -666,6 +691,9 @@ public final class BoundariesTest {
         due("15 least sum", willed("h0000,h0000,h0000,h0000").worst(0), 0);
         due("15 greatest sum", willed("h9999,h9999,h9999,h9999").worst(0), 36);
         due("15 greatest sum of two", willed("h9999,h9999").worst(0), 18);
+        for (int heir = 0; heir < 4; heir++) {
+            due("15 who has what then", willed("h9999,h9999,h9999,h9999").worst(10 + heir), heir);
+        }
         // the last of all ways is the only one of 0
         HeirsInsulted last = willed("h9990,h9909,h9099,h0999");
         HeirsInsulted first = willed("h0999,h9099,h9909,h9990");

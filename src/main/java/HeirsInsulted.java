@@ -597,7 +597,7 @@ public final class HeirsInsulted {
         }
 
         int saidBy(int heir, int thing) {
-            // ahead of heir 0 nothing is said, so that he says 9 as a lawyer
+            // ahead of heir 0 nothing is said, so that as a lawyer he says 9, as the document has it
             int said = 0;
             for (int each = 0; each < MOST_HEIRS && each <= heir; each++) {
                 said = saidAs(kinds.get(each), now.worths.at(each, thing), said);

@@ -55,6 +55,7 @@ public final class PromisesTest {
         restore();
         count();
         digest();
+        readme();
         System.out.println(wrong == 0 ? "all promises hold" : wrong + " answers are not as due");
         if (wrong != 0) {
             System.exit(1);
@@ -206,6 +207,12 @@ public final class PromisesTest {
         }
         due("6 a lawyer behind an heir", lawyers.about(3, 20), 9);
         due("6 a lawyer behind an heir", lawyers.about(3, 23), 0);
+        // he says 9 of what he would get, and nobody says more
+        for (int other = 1; other < 4; other++) {
+            due("11 a lawyer as the eldest", lawyers.may(0, other) & 2, 0);
+        }
+        lawyers.worth(0, 0, 9);
+        due("6 whatever it is worth to him", lawyers.about(0, 20), 9);
         HeirsInsulted actor = willed("a0459,l0000");
         due("6 an actor of 0", actor.about(0, 20), 0);
         due("6 an actor of 4", actor.about(0, 21), 0);
@@ -667,5 +674,23 @@ public final class PromisesTest {
             h = 31 * h + x.count(what);
         }
         return h;
+    }
+
+    /** The example of README.md. */
+    private static void readme() {
+        HeirsInsulted x = paged("p0900,s8000");
+        due("readme fault", x.fault(), 11);
+        due("readme will", x.will(), 2);
+        due("readme has", x.has(0), 0);
+        due("readme about", x.about(1, 20), 1);
+        due("readme may", x.may(0, 1), 3);
+        due("readme ends", x.ends(1), 17);
+        due("readme image", x.image(), 0);
+        due("readme change", x.change(0, 1), 1);
+        due("readme has", x.has(0), 1);
+        due("readme restore", x.restore(), 0);
+        due("readme hear", x.hear(0, 1, 2, true), 1);
+        due("readme truths", x.truths(0, 1), 1022);
+        due("readme about", x.about(2, 0), UNKNOWN);
     }
 }
